@@ -15,6 +15,8 @@ public final class TwinHalves {
     private static final int FEED_BYTES = 20;
     private static final int ACT_LIMIT = 150;
     private static final int TAKES_LIMIT = 3;
+    private static final char TAKES_HAND = 'H';
+    private static final char TAKES_NUMBER = 'N';
     private static final int RUN_LIMIT = 2000;
     private static final int PASS_LIMIT = 1000;
     private static final int LAST_ACT_OUTSIDE = 19;
@@ -227,7 +229,7 @@ public final class TwinHalves {
     private static boolean handsFit(Act asked, int x, int y, int z) {
         for (int i = 0; i < asked.takes.length(); i++) {
             int given = i == 0 ? x : i == 1 ? y : z;
-            if (asked.takes.charAt(i) == Act.HAND && !isHand(given)) {
+            if (asked.takes.charAt(i) == TAKES_HAND && !isHand(given)) {
                 return false;
             }
         }
@@ -243,9 +245,6 @@ public final class TwinHalves {
         ADD("add", "HHH"), SUB("sub", "HHH"), MUL("mul", "HHH"), LESS("less", "HHH"), SAME("same", "HHH"),
         PUSH("push", "H"), POP("pop", "H"), SAY("say", "H"),
         JUMP("jump", "L"), ZERO("zero", "HL"), CALL("call", "L"), BACK("back", ""), STOP("stop", "");
-
-        static final char HAND = 'H';
-        static final char NUMBER = 'N';
 
         final String word;
         final String takes;
@@ -502,7 +501,7 @@ public final class TwinHalves {
         }
 
         private static int tokenFor(char taken) {
-            return taken == Act.HAND ? Tokens.HAND : taken == Act.NUMBER ? Tokens.NUMBER : Tokens.LABEL;
+            return taken == TAKES_HAND ? Tokens.HAND : taken == TAKES_NUMBER ? Tokens.NUMBER : Tokens.LABEL;
         }
 
         private void bindLabels(Program into) {
@@ -1054,7 +1053,7 @@ public final class TwinHalves {
             for (int i = 0; i < memory.roots(); i++) {
                 meet(memory.rootTags[i], memory.rootValues[i]);
             }
-            for (int i = 0; i < count; i++) {
+            for (int i = 0; i < count && i < found.length; i++) {
                 int first = found[i] + Memory.HEAD_WORDS;
                 int slots = memory.slotsOf(found[i]);
                 for (int at = first; at < first + slots; at++) {
@@ -1074,7 +1073,7 @@ public final class TwinHalves {
         void write(int r, Text text) {
             clear();
             writeWord(memory.rootTags[r], memory.rootValues[r], text);
-            for (int i = 0; i < count; i++) {
+            for (int i = 0; i < count && i < found.length; i++) {
                 text.add(' ');
                 writeThing(found[i], text);
             }

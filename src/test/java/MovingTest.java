@@ -234,5 +234,12 @@ public final class MovingTest {
         turned(x, true);
         passed(x, 1000, 4);
         memory(x, 4, 4, 40, 1, 1, 1);
+        // what was popped is no ROOT any more
+        Check.act(x, 0, 18, 0, 0, 0);
+        Check.act(x, 0, 19, 0, 0, 0);
+        Check.act(x, 0, 2, 0, 0, 0);
+        reached(x, 0, 0);
+        turned(x, true);
+        memory(x, 0, 0, 40, 0, 2, 1, 4, 3, 0, 0, 0, 0, 0);
     }
 }

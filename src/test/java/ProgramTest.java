@@ -11,6 +11,7 @@ public final class ProgramTest {
         labels();
         tooMany();
         whatStays();
+        nothingOfEarlierTexts();
         Check.end();
     }
 
@@ -132,5 +133,27 @@ public final class ProgramTest {
         Check.due("program() of nothing", x.program(), 0);
         Check.due("begin()", Check.begin(x), "0");
         Check.due("about(0)", x.about(0), 2);
+    }
+
+    private static void faultOfCut(TwinHalves x, String text, int length, int kind, int place) {
+        Check.type(x, text);
+        Check.due("end(" + length + ") of " + text, x.end(length), length);
+        Check.due("program() of that", x.program(), -1 - place);
+        Check.due("fault() of that", x.fault(), kind);
+    }
+
+    private static void nothingOfEarlierTexts() {
+        TwinHalves x = new TwinHalves(16, 1);
+        faultOfCut(x, "x: stop; x: stop;", 10, 2, 10);
+        faultOfCut(x, "x: stop; x: stop;", 11, 3, 9);
+        faultOfCut(x, "x: stop;", 1, 2, 1);
+        faultOfCut(x, "x: stop;", 7, 2, 7);
+        faultOfCut(x, "abcdefghi", 8, 2, 8);
+        faultOfCut(x, "set a 21474836470;", 16, 2, 16);
+        faultOfCut(x, "set a -5;", 7, 1, 6);
+        Check.start(x, "l: jump l;");
+        Check.type(x, "jump l;");
+        Check.due("program() without the earlier LABEL", x.program(), -6);
+        Check.due("fault()", x.fault(), 4);
     }
 }

@@ -11,6 +11,7 @@ public final class RunTest {
         manyCalls();
         manySaid();
         beginAgain();
+        everyAct();
         Check.end();
     }
 
@@ -153,5 +154,20 @@ public final class RunTest {
         Check.memory(x, 7, 1);
         Check.due("run(2)", Check.run(x, 2), "2");
         Check.due("stack(1, 2)", x.stack(1, 2), 24);
+    }
+
+    private static void everyAct() {
+        TwinHalves x = new TwinHalves(60, 1);
+        Check.start(x, "set a 2; copy b a; none c; row d 3; plain e 2; rows f a; plains g b; put d 1 e; puts d a g;"
+                + "put e 1 a; get h d 1; say a; set b 1; gets h h b; say h; size h d; say h; kind h g; say h;"
+                + "add h a b; say h; sub h b a; say h; mul h a a; say h; less h b a; say h; same h e g; say h;"
+                + "push a; pop h; say h; zero c x; call x; stop; x: say a; back;");
+        Check.due("run(2000)", Check.run(x, 2000), "37");
+        about(x, 2, 0, -1, -1, 37, 0, 11);
+        int[] said = {2, 2, 3, 3, 3, -1, 4, 1, 0, 2, 2};
+        for (int i = 0; i < said.length; i++) {
+            Check.due("said(" + i + ")", Check.said(x, i), Integer.toString(said[i]));
+        }
+        Check.shown(x, 3, "#1 [. #2 #3] {0 2} {0 0}");
     }
 }
