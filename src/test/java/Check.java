@@ -3,21 +3,28 @@ import java.util.function.IntSupplier;
 /** What the tests share: counting wrong answers, feeding texts, naming exceptions. */
 final class Check {
     private static int wrong = 0;
+    private static String sentence = "";
 
     private Check() {
     }
 
+    /** Names the document's part, and its sentence, that the checks from here on are about. */
+    static void about(String part, String told) {
+        sentence = part + " (" + told + "): ";
+    }
+
     static void due(String call, long got, long want) {
-        if (got != want) {
-            wrong++;
-            System.out.println(call + " answered " + got + ", due is " + want);
-        }
+        due(call, Long.toString(got), Long.toString(want));
+    }
+
+    static void due(String call, boolean got, boolean want) {
+        due(call, Boolean.toString(got), Boolean.toString(want));
     }
 
     static void due(String call, String got, String want) {
         if (!got.equals(want)) {
             wrong++;
-            System.out.println(call + " answered " + got + ", due is " + want);
+            System.out.println(sentence + call + " answered " + got + ", due is " + want);
         }
     }
 
@@ -56,7 +63,8 @@ final class Check {
         return answer(() -> x.said(i));
     }
 
-    static int fiveOf(byte[] bytes, int at) {
+    /** The number that four bytes make, the highest first; spaces behind the last byte. */
+    static int numberAt(byte[] bytes, int at) {
         int number = 0;
         for (int i = 0; i < 4; i++) {
             number = number << 8 | (at + i < bytes.length ? bytes[at + i] & 255 : ' ');
@@ -68,8 +76,8 @@ final class Check {
     static void type(TwinHalves x, String text) {
         byte[] bytes = text.getBytes(java.nio.charset.StandardCharsets.ISO_8859_1);
         for (int at = 0; at < bytes.length; at += 20) {
-            x.feed(fiveOf(bytes, at), fiveOf(bytes, at + 4), fiveOf(bytes, at + 8),
-                    fiveOf(bytes, at + 12), fiveOf(bytes, at + 16));
+            x.feed(numberAt(bytes, at), numberAt(bytes, at + 4), numberAt(bytes, at + 8),
+                    numberAt(bytes, at + 12), numberAt(bytes, at + 16));
         }
         due("end(" + bytes.length + ")", x.end(bytes.length), bytes.length);
     }
@@ -111,8 +119,10 @@ final class Check {
 
     static String text(TwinHalves x) {
         StringBuilder text = new StringBuilder();
-        for (int i = 0; x.letter(i) != TwinHalves.NONE; i++) {
-            text.append((char) x.letter(i));
+        int letter = x.letter(0);
+        while (letter != TwinHalves.NONE) {
+            text.append((char) letter);
+            letter = x.letter(text.length());
         }
         return text.toString();
     }

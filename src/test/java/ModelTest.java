@@ -118,7 +118,7 @@ public final class ModelTest {
         for (int at = 0; at < bytes.length; at += 20) {
             int[] n = new int[5];
             for (int i = 0; i < 5; i++) {
-                n[i] = Check.fiveOf(bytes, at + 4 * i);
+                n[i] = Check.numberAt(bytes, at + 4 * i);
             }
             due("feed", real.feed(n[0], n[1], n[2], n[3], n[4]), model.feed(n));
         }
