@@ -274,9 +274,17 @@ public final class ActsEdgeTest {
         for (int s = 0; s < 6; s++) {
             for (int t = 0; t < 6; t++) {
                 Acts.done(x, "same h " + hands.charAt(s) + " " + hands.charAt(t));
-                Check.due("same " + hands.charAt(s) + " " + hands.charAt(t), x.hand(7, 1), group[s] == group[t] ? 1 : 0);
+                int want = group[s] == group[t] ? 1 : 0;
+                Check.due("same " + hands.charAt(s) + " " + hands.charAt(t), x.hand(7, 1), want);
             }
         }
+        // NOBODY is the same, wherever it comes from
+        Acts.done(x, "row g 2; get e g 0; same h d e");
+        Acts.has(x, "h", 0, 1);
+        Acts.done(x, "set e 5; put g 0 e; put g 0 d; get e g 0; get g g 1; same h e g");
+        Acts.has(x, "h", 0, 1);
+        Acts.done(x, "push d; pop e; same h e g");
+        Acts.has(x, "h", 0, 1);
         // NUMBERS that tell of nothing, of a PLACE, of a length; none is the WORD meant
         for (int number : new int[] {0, 1, 2, 36, 38, -1}) {
             Acts.done(x, "set g " + number);
@@ -352,7 +360,8 @@ public final class ActsEdgeTest {
 
     private static void zero() {
         Check.about("Terms 4, ACT 22", "so, if R has the NUMBER 0");
-        String[] given = {"set a 0", "set a -0", "set a 1", "set a -1", "set a -2147483648", "none a", "row a 0", "plain a 1"};
+        String[] given = {"set a 0", "set a -0", "set a 1", "set a -1", "set a -2147483648", "none a", "row a 0",
+            "plain a 1"};
         int[] next = {3, 3, 2, 2, 2, 2, 2, 2};
         for (int i = 0; i < given.length; i++) {
             TwinHalves x = started(given[i] + ";zero a x;stop;x:stop;");
@@ -445,8 +454,8 @@ public final class ActsEdgeTest {
     /** Each kind, by an ACT of a run: it is told by about(1), and the ACT is the next one still. */
     private static void eachRefusalInARun() {
         Check.about("Terms 4", "KINDS of refusals, in a run");
-        String[] texts = {"none a;say a;", "size a b;", "plain a 1;get b a 1;", "row a 41;", "plain a 1;none b;put a 0 b;",
-            "pop a;", "x:call x;"};
+        String[] texts = {"none a;say a;", "size a b;", "plain a 1;get b a 1;", "row a 41;",
+            "plain a 1;none b;put a 0 b;", "pop a;", "x:call x;"};
         int[] done = {1, 0, 1, 0, 2, 0, 30};
         for (int i = 0; i < texts.length; i++) {
             TwinHalves x = started(texts[i]);

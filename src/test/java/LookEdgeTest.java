@@ -22,6 +22,7 @@ public final class LookEdgeTest {
         stackOfEachKind();
         noSuchSlot();
         slotOfEachKind();
+        slotOfAThingOnItsWay();
         slotMovesNothing();
         reachOfAnother();
         reachNoneAndAll();
@@ -36,6 +37,7 @@ public final class LookEdgeTest {
         showNobodyAndEmpty();
         showInOrder();
         showNumbersOfThings();
+        showThingsOnTheirWay();
         first600BytesAreKept();
         textStays();
         showMovesNothing();
@@ -384,6 +386,24 @@ public final class LookEdgeTest {
         Acts.slot(x, "a", 2, 0, LEAST, -1);
     }
 
+    /** HAND a's ROW has one THING, which is MOVED, in both SLOTS, but SLOT 1 is not PASSED yet. */
+    private static TwinHalves onItsWay() {
+        TwinHalves x = new TwinHalves(40, 1);
+        Acts.done(x, "row b 1; row a 2; put b 0 b; put a 0 b; put a 1 b; set b 0");
+        Acts.turned(x, true);
+        Acts.passed(x, 3, 3);
+        return x;
+    }
+
+    private static void slotOfAThingOnItsWay() {
+        Check.about("Promise 16", "2: the half in which its THING lies, also if another SLOT had it MOVED");
+        TwinHalves x = onItsWay();
+        Acts.slot(x, "a", 0, 2, 1, 1);
+        Acts.slot(x, "a", 1, 2, 1, 1);
+        Acts.passed(x, 1000, 4);
+        Acts.slot(x, "a", 1, 2, 1, 1);
+    }
+
     private static void slotMovesNothing() {
         Check.about("Promise 16", "Nothing is READ by that, nor MOVED");
         TwinHalves x = narrow();
@@ -441,6 +461,7 @@ public final class LookEdgeTest {
         Acts.reached(x, 3, 10);
         Acts.done(x, "pop f; set f 0");
         Acts.reached(x, 0, 0);
+        Acts.reached(onItsWay(), 2, 7);
     }
 
     private static void reachMovesNothing() {
@@ -456,7 +477,8 @@ public final class LookEdgeTest {
     private static void showNumbers() {
         Check.about("Promise 18", "a NUMBER's digits (a - ahead, if it is below 0)");
         TwinHalves x = new TwinHalves(16, 1);
-        for (int number : new int[] {0, 1, -1, 9, 10, -10, 99, 100, 101, 1000000000, 999999999, -999999999, MOST, LEAST}) {
+        int[] numbers = {0, 1, -1, 9, 10, -10, 99, 100, 101, 1000000000, 999999999, -999999999, MOST, LEAST};
+        for (int number : numbers) {
             Acts.done(x, "set h " + number);
             Check.shown(x, 7, Integer.toString(number));
         }
@@ -492,13 +514,26 @@ public final class LookEdgeTest {
     private static void showNumbersOfThings() {
         Check.about("Promise 18", "# and a number for a THING (1 for the first that is written so, then 2, and so on)");
         TwinHalves x = new TwinHalves(200, 1);
-        runAll(x, "row a 40;set b 11;set c 1;x:sub b b c;row d 0;puts a b d;zero b y;jump x;y:stop;", 3 + 11 * 5 - 1 + 1);
+        runAll(x, "row a 40;set b 11;set c 1;x:sub b b c;row d 0;puts a b d;zero b y;jump x;y:stop;",
+                3 + 11 * 5 - 1 + 1);
         StringBuilder all = new StringBuilder("#1 [");
         for (int i = 0; i < 11; i++) {
             all.append('#').append(i + 2).append(' ');
         }
         all.append(". ".repeat(28)).append(".]").append(" []".repeat(11));
         Check.shown(x, 0, all.toString());
+    }
+
+    private static void showThingsOnTheirWay() {
+        Check.about("Promise 18", "always the same for one THING");
+        TwinHalves x = onItsWay();
+        Check.shown(x, 0, "#1 [#2 #2] [#2]");
+        Acts.passed(x, 1, 1);
+        Check.shown(x, 0, "#1 [#2 #2] [#2]");
+        Acts.done(x, "get b a 1");
+        Check.shown(x, 1, "#1 [#1]");
+        // what was shown before has no say
+        Check.shown(x, 0, "#1 [#2 #2] [#2]");
     }
 
     /** HAND a's text is 596 bytes and those of a NUMBER long; HAND e has the NUMBER 0. */

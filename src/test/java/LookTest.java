@@ -135,8 +135,8 @@ public final class LookTest {
         Check.shown(x, 4, "#1 []");
         Check.memory(x, 5, before);
         // half way between the halves it is shown alike
-        for (int i = 0; i < 20; i++) {
-            x.pass(1);
+        for (int i = 0; i < 6; i++) {
+            x.pass(3);
             Check.shown(x, 3, want);
         }
     }
@@ -152,8 +152,10 @@ public final class LookTest {
         }
         String all = "#1 [" + "#2 ".repeat(39) + "#2] {" + "-1111111111 ".repeat(39) + "-1111111111}";
         Check.due("there is too much for TEXT", all.length() > 600 ? 1 : 0, 1);
-        Check.shown(x, 0, all.substring(0, 600));
-        Check.due("letter(599)", x.letter(599), all.charAt(599));
+        Check.due("show(0)", x.show(0), 600);
+        for (int i = 300; i < 600; i++) {
+            Check.due("letter(" + i + ")", x.letter(i), all.charAt(i));
+        }
         Check.due("letter(600)", x.letter(600), -1);
         Check.shown(x, 2, "-1111111111");
     }

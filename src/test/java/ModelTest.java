@@ -1,27 +1,40 @@
 import java.util.Random;
 
-/** Long runs of calls, drawn by fixed seeds, on the class and on the Model side by side: promises 1 to 19. */
+/**
+ * Runs of calls, drawn by fixed seeds, on the class and on the Model side by side: promises 1 to 19. No
+ * object is called more than 512 times, since nothing is promised behind that.
+ */
 public final class ModelTest {
+    /** Calls that a program may still be typed behind (its feeding takes up to 100), and the run goes on behind. */
+    private static final int LAST_PROGRAM = 270;
+    private static final int LAST_STEP = 380;
     private static final int[] EDGES = {-1, 0, 1, 2, 39, 40, 41, 7, 8, Integer.MIN_VALUE, Integer.MAX_VALUE};
 
     private final Random dice;
+    /** 0: many programs; 1: many TURNS; others: neither. */
+    private final int mood;
     private final TwinHalves real;
     private final Model model;
     private final String name;
+    private int calls;
     private static final int[] refusals = new int[11];
     private static final int[] faults = new int[6];
 
     private ModelTest(long seed) {
         dice = new Random(seed);
-        int size = dice.nextInt(10) == 0 ? dice.nextInt(1400) - 50 : 16 + dice.nextInt(dice.nextBoolean() ? 60 : 400);
-        int k = dice.nextInt(9) - 1;
+        mood = (int) (seed % 4);
+        // half of the runs have narrow halves and pass few words, so that SPENT, LATE and FULL come up
+        boolean narrow = seed % 8 < 4;
+        int wide = dice.nextInt(10) == 0 ? dice.nextInt(1400) - 50 : 16 + dice.nextInt(400);
+        int size = narrow ? 16 + dice.nextInt(24) : wide;
+        int k = narrow ? dice.nextInt(2) : dice.nextInt(9) - 1;
         name = "seed " + seed + ", TwinHalves(" + size + ", " + k + "): ";
         real = new TwinHalves(size, k);
         model = new Model(size, k);
     }
 
     public static void main(String[] args) {
-        int seeds = args.length > 0 ? Integer.parseInt(args[0]) : 3000;
+        int seeds = args.length > 0 ? Integer.parseInt(args[0]) : 8000;
         for (int seed = 0; seed < seeds && Check.allRight(); seed++) {
             new ModelTest(seed).go();
         }
@@ -38,20 +51,21 @@ public final class ModelTest {
     }
 
     private void due(String call, String got, String want) {
+        calls++;
         Check.due(name + call, got, want);
     }
 
     private void due(String call, int got, int want) {
+        calls++;
         if (got != want) {
             Check.due(name + call, got, want);
         }
     }
 
     private void go() {
-        int mood = dice.nextInt(3);
-        for (int call = 0; call < 300 && Check.allRight(); call++) {
+        while (calls < LAST_STEP && Check.allRight()) {
             int draw = dice.nextInt(100);
-            if (mood == 0 && draw < 20 || draw < 2) {
+            if (calls < LAST_PROGRAM && (mood == 0 && draw < 20 || draw < 2)) {
                 newProgram();
             } else if (mood == 0 && draw < 50 || draw < 8) {
                 runSome();
@@ -60,18 +74,20 @@ public final class ModelTest {
             } else if (draw < 84) {
                 int n = dice.nextInt(6) == 0 ? 990 + dice.nextInt(20) : dice.nextInt(12) - 1;
                 due("pass(" + n + ")", real.pass(n), model.pass(n));
-            } else if (draw < 87) {
+            } else if (draw < (mood == 1 ? 92 : 87)) {
                 due("turn()", real.turn() ? 1 : 0, model.turn() ? 1 : 0);
-            } else if (draw < 89) {
+            } else if (draw < 94 && dice.nextInt(4) == 0) {
                 tapeCalls();
             } else {
                 look();
             }
-            for (int what = -1; what < 16; what++) {
+            for (int i = 0; i < 2; i++) {
+                int what = dice.nextInt(17) - 1;
                 due("memory(" + what + ")", real.memory(what), model.memory(what));
             }
         }
         lookAtAll();
+        Check.due(name + "at most 512 calls", calls <= 512, true);
     }
 
     private int edge(int most) {
@@ -178,11 +194,14 @@ public final class ModelTest {
 
     private void spoil(StringBuilder out) {
         String[] bits = {"-", ":", ";", "a", "l0", "l1:", "set", "7", "12345678901", "2147483648", "-2147483649", "A",
-            "\u00ff", "\t", "abcdefgh", "abcdefghi", "z9", "\n", " ", "0x", "-5", "stop;", "l0: stop;", "i"};
+            "\u00ff", "\t", "abcdefgh", "abcdefghi", "z9", "\n", " ", "0x", "-5", "stop;", "l0: stop;",
+            "l1:stop;", "i"};
         for (int i = 1 + dice.nextInt(2); i > 0; i--) {
             int at = dice.nextInt(out.length() + 1);
             if (dice.nextInt(3) == 0 && at < out.length()) {
                 out.deleteCharAt(at);
+            } else if (dice.nextInt(3) == 0) {
+                out.append(bits[dice.nextInt(bits.length)]);
             } else {
                 out.insert(at, bits[dice.nextInt(bits.length)]);
             }
@@ -212,20 +231,21 @@ public final class ModelTest {
         due("slot(" + r + ", " + i + ", " + what + ")", real.slot(r, i, what), model.slot(r, i, what));
         due("reach(" + what + ")", real.reach(what), model.reach(what));
         due("show(" + r + ")", real.show(r), model.show(r));
-        due("TEXT", Check.text(real), model.text);
-        due("letter(" + i + ")", real.letter(i), model.letter(i));
-        due("letter(600)", real.letter(600), model.letter(600));
+        int length = model.text.length();
+        for (int at : new int[] {i, length - 1, length, 600, dice.nextInt(length + 1), dice.nextInt(length + 1)}) {
+            due("letter(" + at + ")", real.letter(at), model.letter(at));
+        }
     }
 
     private void lookAtAll() {
-        for (int what = 0; what < 3; what++) {
-            for (int r = 0; r < 8; r++) {
+        for (int what = -1; what < 16; what++) {
+            due("memory(" + what + ")", real.memory(what), model.memory(what));
+        }
+        for (int r = 0; r < 8; r++) {
+            for (int what = 0; what < 3; what++) {
                 due("hand(" + r + ", " + what + ")", real.hand(r, what), model.hand(r, what));
-                for (int i = 0; i < 41; i++) {
-                    due("slot(" + r + ", " + i + ", " + what + ")", real.slot(r, i, what), model.slot(r, i, what));
-                }
-            }
-            for (int i = 0; i < 51; i++) {
+                int i = dice.nextInt(8);
+                due("slot(" + r + ", " + i + ", " + what + ")", real.slot(r, i, what), model.slot(r, i, what));
                 due("stack(" + i + ", " + what + ")", real.stack(i, what), model.stack(i, what));
             }
         }

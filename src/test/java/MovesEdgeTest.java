@@ -16,6 +16,7 @@ public final class MovesEdgeTest {
         movedOnce();
         passOnlyBelowFloor();
         passWordsWithoutOldThings();
+        passHeadWords();
         passIsSpent();
         turnOnlyAtFloor();
         turnWithoutThings();
@@ -158,7 +159,7 @@ public final class MovesEdgeTest {
     }
 
     private static void passWordsWithoutOldThings() {
-        Check.about(PASS, "if the word is a SLOT's, and that has a THING of the OLD half: of other words nothing is MOVED");
+        Check.about(PASS, "if the word is a SLOT's, and that has a THING of the OLD half: else nothing is MOVED");
         TwinHalves x = new TwinHalves(16, 1);
         // 11 and 0 are NUMBERS, though THINGS lie at these PLACES
         Acts.done(x, "row a 3; plain c 2; set e 11; put a 0 d; put a 2 a; put c 0 e; put c 1 d");
@@ -173,6 +174,27 @@ public final class MovesEdgeTest {
         }
         Check.shown(x, 0, "#1 [0 . #1]");
         Check.shown(x, 2, "#1 {11 0}");
+    }
+
+    private static void passHeadWords() {
+        Check.about(PASS, "if the word is a SLOT's: a HEAD's is none, whatever SLOT lay there before");
+        for (int n : new int[] {14, 13}) {
+            TwinHalves x = new TwinHalves(16, 1);
+            Acts.done(x, "row a " + n);
+            for (int i = 0; i < n; i++) {
+                Acts.done(x, "put a " + i + " a");
+            }
+            Acts.done(x, "set a 0");
+            Acts.turned(x, true);
+            Acts.turned(x, true);
+            Acts.done(x, "plain a 0; row b 1; plain c 2");
+            Acts.turned(x, true);
+            Acts.lies(x, 9, 0, 16);
+            Acts.passed(x, 1000, 9);
+            Acts.lies(x, 9, 9, 16);
+            Check.memory(x, 5, 3);
+            Acts.failures(x, 0, 0, 0);
+        }
     }
 
     private static void passIsSpent() {

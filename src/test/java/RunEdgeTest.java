@@ -18,6 +18,7 @@ public final class RunEdgeTest {
         wrongNumberComesFirst();
         runOfNone();
         runOfMost();
+        fiveHundredAndTwelveCalls();
         runToItsEnd();
         runTillRefused();
         refusedIsNextStill();
@@ -171,6 +172,19 @@ public final class RunEdgeTest {
         ran(x, 1, 1);
         ran(x, 1999, 1999);
         Check.due("about(4)", x.about(4), 6000);
+    }
+
+    private static void fiveHundredAndTwelveCalls() {
+        Check.about("What it is", "An object is used for at most 512 calls");
+        TwinHalves x = new TwinHalves(1200, 6);
+        // feed, end, program and begin are four of them
+        Check.start(x, "x:row a 9;jump x;");
+        for (int i = 0; i < 505; i++) {
+            ran(x, 2000, 2000);
+        }
+        Check.memory(x, 7, 505000);
+        Check.due("about(4)", x.about(4), 1010000);
+        Check.due("hand(0, 1), the 512th call", x.hand(0, 1), 9);
     }
 
     private static void runToItsEnd() {

@@ -25,7 +25,9 @@ public final class TextsEdgeTest {
         firstUncutAtItsFirstByte();
         cantStandThere();
         atTheEnd();
+        nothingBehindTheEnd();
         labelTwice();
+        labelsThatDiffer();
         mostActs();
         tooManyActs();
         leastKindOfOneToken();
@@ -275,6 +277,31 @@ public final class TextsEdgeTest {
         Check.fault("jump x", 2, 6);
     }
 
+    /** The FAULT of a text's first bytes, where an earlier text had TOKENS behind them. */
+    private static void faultOfFirst(TwinHalves x, String text, int length, int kind, int place) {
+        Check.type(x, text);
+        Check.due("program() of " + text, x.program() >= 0, true);
+        Check.type(x, text);
+        Check.due("end(" + length + ")", x.end(length), length);
+        Check.due("program() of the first " + length, x.program(), -1 - place);
+        Check.due("fault()", x.fault(), kind);
+    }
+
+    private static void nothingBehindTheEnd() {
+        Check.about("Terms 3, FAULT 2", "at the end: nothing is there, whatever an earlier text had");
+        TwinHalves x = new TwinHalves(16, 1);
+        String text = "x:zero a x;y:set b 1;";
+        for (int length : new int[] {1, 2, 6, 8, 10, 12, 13, 16, 18, 20}) {
+            faultOfFirst(x, text, length, 2, length);
+        }
+        faultOfFirst(x, "x:stop;jump y;y:stop;", 14, 4, 12);
+        Check.type(x, "x:stop;");
+        Check.due("program()", x.program(), 1);
+        Check.type(x, "stop;jump x;");
+        Check.due("program(): an earlier text's LABEL", x.program(), -11);
+        Check.due("fault()", x.fault(), 4);
+    }
+
     private static void labelTwice() {
         Check.about("Terms 3, FAULT 3", "a LABEL right ahead of a : that stood so before");
         Check.fault("x:stop;x:stop;", 3, 7);
@@ -290,6 +317,34 @@ public final class TextsEdgeTest {
         Check.fault("x:stop;x stop;", 2, 9);
         Check.acts("x:jump x;jump x;y:jump x;", 3);
         Check.acts("jump x;x:stop;", 2);
+    }
+
+    /** Each two of all NAMES of two bytes, and more, in one PROGRAM. */
+    private static void labelsThatDiffer() {
+        Check.about("Terms 3, FAULT 3", "a LABEL that stood so before: another one never");
+        String signs = "0123456789abcdefghijklmnopqrstuvwxyz";
+        int group = 72;
+        String[] all = new String[26 * 36];
+        for (int i = 0; i < all.length; i++) {
+            all[i] = "" + (char) ('a' + i / 36) + signs.charAt(i % 36) + ":stop;";
+        }
+        for (int i = 0; i < all.length; i += group) {
+            String some = String.join("", java.util.Arrays.copyOfRange(all, i, i + group));
+            for (int j = i + group; j < all.length; j += group) {
+                Check.acts(some + String.join("", java.util.Arrays.copyOfRange(all, j, j + group)), 2 * group);
+            }
+        }
+        StringBuilder lengths = new StringBuilder();
+        for (int length = 1; length <= 8; length++) {
+            for (String sign : new String[] {"i", "z"}) {
+                lengths.append(sign.repeat(length)).append(":stop;");
+                lengths.append(length > 1 ? sign + "0".repeat(length - 1) + ":stop;" : "");
+                lengths.append(length > 1 ? sign + "9".repeat(length - 1) + ":stop;" : "");
+            }
+        }
+        Check.acts(lengths.toString(), 2 * (8 + 7 + 7));
+        Check.fault("zz:stop;jump z;", 4, 13);
+        Check.fault("z:stop;jump zz;", 4, 12);
     }
 
     private static void mostActs() {
@@ -332,7 +387,7 @@ public final class TextsEdgeTest {
     }
 
     private static void missingLabels() {
-        Check.about("Terms 3, FAULT 4", "Behind all that: the first LABEL that an ACT takes and that stands ahead of no ACT");
+        Check.about("Terms 3, FAULT 4", "the first LABEL that an ACT takes and that stands ahead of no ACT");
         Check.fault("jump y;", 4, 5);
         Check.fault("x:stop;jump xx;", 4, 12);
         Check.fault("x:jump x;zero a y;call z;", 4, 16);

@@ -14,6 +14,7 @@ public final class ThingsEdgeTest {
         eightHands();
         stackOfFifty();
         rootsInOrder();
+        noOtherRoots();
         Check.end();
     }
 
@@ -203,5 +204,26 @@ public final class ThingsEdgeTest {
         for (int k = 0; k < 50; k++) {
             Check.due("stack(" + k + ", 2)", x.stack(k, 2), 16 + 2 * k);
         }
+    }
+
+    private static void noOtherRoots() {
+        Check.about(PART, "HANDS, then the STACK, are the ROOTS: nothing else is");
+        // NUMBERS are no THINGS, even if THINGS lie at such PLACES
+        TwinHalves x = new TwinHalves(16, 1);
+        Acts.done(x, "row a 0; row a 2; plain b 1; set a 14; push a; set a 10; put b 0 a");
+        Acts.place(x, "b", 7);
+        Acts.reached(x, 1, 3);
+        Acts.turned(x, true);
+        Acts.lies(x, 3, 0, 16);
+        Check.memory(x, 12, 1);
+        // what was popped is on the STACK no more
+        TwinHalves y = new TwinHalves(16, 1);
+        Acts.done(y, "row a 0; push a; push a; row b 1; push b; pop a; pop b; pop c; set a 0; set b 0; set c 0");
+        Acts.reached(y, 0, 0);
+        Acts.turned(y, true);
+        Acts.lies(y, 0, 0, 16);
+        Acts.done(y, "push a");
+        Check.due("stack(0, 0)", y.stack(0, 0), 0);
+        Check.due("stack(0, 2)", y.stack(0, 2), -1);
     }
 }
