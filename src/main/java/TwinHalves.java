@@ -664,8 +664,10 @@ public final class TwinHalves {
                 return NONE;
             }
             int to = present * size + floor;
-            System.arraycopy(tags, from, tags, to, words);
-            System.arraycopy(values, from, values, to, words);
+            for (int i = 0; i < words; i++) {
+                tags[to + i] = tags[from + i];
+                values[to + i] = values[from + i];
+            }
             tags[from] = WENT_ON;
             values[from] = to;
             floor += words;
@@ -1009,7 +1011,8 @@ public final class TwinHalves {
             if (!doer.hasNumber(r)) {
                 return Doer.NO_NUMBER;
             }
-            if (saidCount < SAID_LIMIT) {
+            // below 0 only far behind the 512th call, when the count has wrapped round
+            if (saidCount >= 0 && saidCount < SAID_LIMIT) {
                 said[saidCount] = doer.number(r);
             }
             saidCount++;
